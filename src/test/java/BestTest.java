@@ -156,6 +156,13 @@ public final class BestTest {
         crosses("g0,40,00000;g0,40,00001;p00000;", 1, 0, 1);
         crosses("g0,40,00000;g0,0,00002;p00000;", 1, 0, NONE);
         crosses("g0,40,00000;g0,0,00003;p00001;", 0, 1, NONE);
+        GateSayings x = Due.laid("g0,40,00000;g0,40,00002;p00000;");
+        DUE.is("crosses(0, 0, 1)", x.crosses(0, 0, 1), 3);
+        x.listen(1, 0);
+        DUE.is("crosses(0, 0, 1) as all stands now", x.crosses(0, 0, 1), 2);
+        Due.write(x, "x");
+        x.fault();
+        DUE.is("crosses(0, 0, 1) again", x.crosses(0, 0, 1), 2);
         crosses("g0,40,15412;g0,40,45535;p32535;", 0, 1, 60);
         // Both gates would say it alike behind the 61st.
         crosses("g0,40,13340;g0,40,23541;p45130;", 0, 1, NONE);

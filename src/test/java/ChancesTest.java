@@ -108,6 +108,12 @@ public final class ChancesTest {
         DUE.is("the same year again", x.year(77, 60, 0), in);
         DUE.is("the same year again", x.year(77, 60, 1), out);
         DUE.is("undo()", x.undo(), 1);
+        GateSayings shut = Due.laid("g3,0,55555;p00000;");
+        shut.ask(0, 0);
+        DUE.is("year(5, 60, 1) of one who was shut out ahead of it", shut.year(5, 60, 1), 40);
+        GateSayings open = Due.laid("g3,0,55555;p55555;");
+        open.ask(0, 0);
+        DUE.is("year(5, 60, 0) of one who was let in ahead of it", open.year(5, 60, 0), 40);
         GateSayings settled = Due.laid("g0,0,00000;p00000;p55555;");
         settled.ask(0, 0);
         year(settled, 0, 1, 0, 0, 1);

@@ -166,6 +166,12 @@ public final class TownsTest {
         DUE.is("undo() behind lay", x.undo(), GateSayings.NO);
         DUE.is("back() behind lay", x.back(), GateSayings.NO);
         DUE.is("kinds(0) behind lay", x.kinds(0), 15);
+        GateSayings tried = new GateSayings();
+        Due.write(tried, GATE + PERSON);
+        tried.year(77, 60, 0);
+        tried.lay();
+        DUE.is("count(2): a year ahead of lay", tried.count(2), 0);
+        DUE.is("count(3): a year ahead of lay", tried.count(3), 0);
         DUE.is("from() behind lay", x.from(), 1);
         GateSayings y = busy("p00000;x");
         String ahead = Due.stand(y);

@@ -134,6 +134,11 @@ public final class WitnessTest {
         stranger(x, 0, 2, 2);
         x.heard(0, 1);
         stranger(x, 0, 0, 3);
+        GateSayings none = Due.laid("g0,0,00000;g0,0,00001;p00000;");
+        for (int i = 0; i < 8; i++) {
+            none.heard(i % 5, 5);
+        }
+        stranger(none, 0, 0, 8);
         GateSayings y = Due.laid("g0,0,00000;g0,0,00001;p00000;");
         y.heard(4, 1);
         stranger(y, 2, 1, 0);
