@@ -1,18 +1,46 @@
+import java.io.IOException;
+import java.nio.file.Files;
+import java.nio.file.Path;
+
 /** What the tests share: counts the answers that are not as due, and lays towns. */
 final class Due {
     private final String name;
     private int calls;
     private int wrong;
+    private String document = "";
+    private String sentence = "";
 
     Due(String name) {
         this.name = name;
+    }
+
+    /** The sentence of DOC.md, in its own words, that the answers from here on are about. */
+    void says(String words) {
+        if (document.isEmpty()) {
+            document = document();
+        }
+        sentence = ", for: " + words;
+        calls++;
+        if (!document.contains(words.replaceAll("\\s+", " "))) {
+            wrong++;
+            System.out.println(name + ": the document does not say: " + words);
+        }
+    }
+
+    private static String document() {
+        try {
+            Path project = Path.of(System.getProperty("project", "."));
+            return Files.readString(project.resolve("../shared/DOC.md")).replaceAll("\\s+", " ");
+        } catch (IOException missing) {
+            throw new IllegalStateException("the tests read ../shared/DOC.md", missing);
+        }
     }
 
     void is(String call, long got, long want) {
         calls++;
         if (got != want) {
             wrong++;
-            System.out.println(name + ": " + call + " answered " + got + ", due is " + want);
+            System.out.println(name + ": " + call + " answered " + got + ", due is " + want + sentence);
         }
     }
 
@@ -31,7 +59,7 @@ final class Due {
         calls++;
         if (!got.equals(want)) {
             wrong++;
-            System.out.println(name + ": " + what + " is " + got + ", due is " + want);
+            System.out.println(name + ": " + what + " is " + got + ", due is " + want + sentence);
         }
     }
 

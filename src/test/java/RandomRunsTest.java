@@ -150,42 +150,7 @@ public final class RandomRunsTest {
     }
 
     private void both(String name, int a, int b, int c, int d) {
-        due.is(run + name + "(" + a + ", " + b + ", " + c + ", " + d + ")", answer(name, a, b, c, d),
+        due.is(run + name + "(" + a + ", " + b + ", " + c + ", " + d + ")", Calls.answer(given, name, a, b, c, d),
             plain.call(name, a, b, c, d));
-    }
-
-    private int answer(String name, int a, int b, int c, int d) {
-        switch (name) {
-            case "write": return given.write(a);
-            case "wipe": return given.wipe();
-            case "fault": return given.fault();
-            case "lay": return given.lay();
-            case "gate": return given.gate(a, b);
-            case "person": return given.person(a, b);
-            case "far": return given.far(a, b);
-            case "ask": return given.ask(a, b);
-            case "talk": return given.talk(a, b);
-            case "listen": return given.listen(a, b);
-            case "undo": return given.undo();
-            case "opens": return given.opens(a);
-            case "best": return given.best(a);
-            case "middle": return given.middle(a);
-            case "lessons": return given.lessons(a, b, c);
-            case "apart": return given.apart(a);
-            case "crosses": return given.crosses(a, b, c);
-            case "seen": return given.seen(a, b, c);
-            case "kinds": return given.kinds(a);
-            case "ears": return given.ears(a, b);
-            case "heard": return given.heard(a, b);
-            case "from": return given.from();
-            case "nearest": return given.nearest(a);
-            case "forget": return given.forget();
-            case "likely": return given.likely(a, b, c, d);
-            case "year": return given.year(a, b, c);
-            case "keep": return given.keep();
-            case "back": return given.back();
-            case "count": return given.count(a);
-            default: throw new IllegalArgumentException(name);
-        }
     }
 }
