@@ -296,10 +296,10 @@ public final class ActEdgesTest {
             for (int left = can - 1; left >= 0; left--) {
                 DUE.is("undo() behind " + acts, x.undo(), left);
                 DUE.is("count(7)", x.count(7), left);
+                DUE.is("talks that stay, of " + acts, sounds(x, 0), acts - can + left);
             }
             DUE.is("undo() once more", x.undo(), NO);
-            int stays = acts - can;
-            DUE.is("talks that stay", sounds(x, 0), stays);
+            DUE.is("talks that stay, of " + acts, sounds(x, 0), acts - can);
         }
         GateSayings mixed = Due.laid("g0,0,00000;g0,40,55555;p00001;p55555;");
         DUE.is("talk(0, 1), the ninth from the end", mixed.talk(0, 1), 0);

@@ -31,6 +31,7 @@ public final class BestEdgesTest {
         DUE.is("opens(1)", x.opens(1), 0);
         DUE.is("opens(2): all", x.opens(2), 31);
         DUE.is("opens(3): none", x.opens(3), 0);
+        DUE.says("OPENS, as bits. BAD.");
         DUE.is("opens(4)", x.opens(4), BAD);
         DUE.is("opens(-1)", x.opens(-1), BAD);
         for (int g = 0; g < 5; g++) {
@@ -204,6 +205,7 @@ public final class BestEdgesTest {
     private static void apartByNoPlace() {
         DUE.says("of sets of places (bits) at which the SOUNDS tell all GATES from one another, that of fewest, of several"
             + " the lowest as bits: how many; which; none.");
+        DUE.says("APART: how many (what = 0), which (1; bits). NONE; BAD.");
         apart("g0,0,00000;", 0, 0);
         apart("g3,40,55555;", 0, 0);
     }

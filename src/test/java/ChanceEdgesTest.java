@@ -158,7 +158,7 @@ public final class ChanceEdgesTest {
         year(x, 0, 5, 1, 0, 1);
     }
 
-    /** The last person says it as the gate only behind a talk with the first one, not with any other. */
+    /** One says it as the gate only behind a talk with the next one, the last with the first, not with another. */
     private static void behindTheLastTheFirst() {
         DUE.says("else TALKS with the next PERSON (behind the last one the first)");
         year(Due.laid("g0,0,10000;p20000;p00000;"), 26, 1, 0, 0, 0);
@@ -168,6 +168,14 @@ public final class ChanceEdgesTest {
         year(Due.laid("g0,0,10000;p00000;p20000;p00000;"), 15, 2, 0, 1, 0);
         year(Due.laid("g0,0,10000;p20000;p00000;p00000;p00000;p00000;p00000;"), 86, 2, 1, 0, 1);
         year(Due.laid("g0,0,10000;p00000;p20000;p20000;p20000;p20000;p00000;"), 86, 2, 0, 1, 0);
+        // In year 44 it is the first person that talks and asks, in 66 of three the second, in 785 the last but one.
+        year(Due.laid("g0,0,10000;p00000;p20000;"), 44, 2, 1, 0, 1);
+        year(Due.laid("g0,0,10000;p00000;p20000;p00000;"), 44, 2, 1, 0, 1);
+        year(Due.laid("g0,0,10000;p00000;p00000;p20000;"), 44, 2, 0, 1, 0);
+        year(Due.laid("g0,0,10000;p00000;p00000;p20000;"), 66, 2, 1, 0, 1);
+        year(Due.laid("g0,0,10000;p20000;p00000;p00000;"), 66, 2, 0, 1, 0);
+        year(Due.laid("g0,0,10000;p00000;p00000;p00000;p00000;p00000;p20000;"), 785, 2, 1, 0, 1);
+        year(Due.laid("g0,0,10000;p20000;p20000;p20000;p20000;p00000;p00000;"), 785, 2, 0, 1, 0);
     }
 
     private static void fromNowOn() {

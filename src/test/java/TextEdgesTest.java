@@ -45,18 +45,25 @@ public final class TextEdgesTest {
     private static void soundsAndPlaces() {
         DUE.says("A SAYING is a row of five SOUNDS (0 to 5), at places 0 to 4.");
         GateSayings x = Due.laid("g0,7,05050;p50505;");
-        int[] gate = {0, 5, 0, 5, 0, 0, 7};
-        int[] person = {5, 0, 5, 0, 5, NONE};
-        for (int what = 0; what < 7; what++) {
-            DUE.is("gate(0, " + what + ")", x.gate(0, what), gate[what]);
+        DUE.says("Of a GATE: SOUND at a place (what = 0 to 4), KIND (5), EAR (6). BAD.");
+        int[] gate = {BAD, 0, 5, 0, 5, 0, 0, 7, BAD};
+        for (int what = -1; what <= 7; what++) {
+            DUE.is("gate(0, " + what + ")", x.gate(0, what), gate[what + 1]);
         }
-        for (int what = 0; what < 6; what++) {
-            DUE.is("person(0, " + what + ")", x.person(0, what), person[what]);
+        DUE.is("gate(1, 0)", x.gate(1, 0), BAD);
+        DUE.is("gate(-1, 0)", x.gate(-1, 0), BAD);
+        DUE.says("Of a PERSON: SOUND at a place (what = 0 to 4), the GATE of which it is (5; NONE). BAD.");
+        int[] person = {BAD, 5, 0, 5, 0, 5, NONE, BAD};
+        for (int what = -1; what <= 6; what++) {
+            DUE.is("person(0, " + what + ")", x.person(0, what), person[what + 1]);
         }
-        DUE.is("gate(0, 7)", x.gate(0, 7), BAD);
-        DUE.is("gate(0, -1)", x.gate(0, -1), BAD);
-        DUE.is("person(0, 6)", x.person(0, 6), BAD);
-        DUE.is("person(0, -1)", x.person(0, -1), BAD);
+        DUE.is("person(1, 0)", x.person(1, 0), BAD);
+        DUE.is("person(-1, 0)", x.person(-1, 0), BAD);
+        rowsOfFigures();
+    }
+
+    private static void rowsOfFigures() {
+        DUE.says("SOUNDS (0 to 5), at places 0 to 4.");
         for (int k = 0; k < 5; k++) {
             for (char figure = '0' - 1; figure <= '9' + 1; figure++) {
                 StringBuilder row = new StringBuilder("00000");
@@ -221,8 +228,8 @@ public final class TextEdgesTest {
         fault(GATE.repeat(5) + "g0,4,0123;", 55);
         fault(GATE.repeat(5) + PERSON.repeat(7), 97);
         fault(GATE.repeat(5) + PERSON.repeat(6) + GATE, 97);
-        GateSayings x = Due.laid("g0,0,00000;p00000;g1,1,11111;g2,2,22222;p11111;g3,3,33333;g0,4,44444;");
-        String[] due = {"0,0,00000", "1,1,11111", "2,2,22222", "3,3,33333", "0,4,44444"};
+        GateSayings x = Due.laid("g0,0,00000;p00000;g1,1,11111;g2,2,22222;p11111;g3,3,33333;g2,4,44444;");
+        String[] due = {"0,0,00000", "1,1,11111", "2,2,22222", "3,3,33333", "2,4,44444"};
         for (int g = 0; g < 5; g++) {
             DUE.gate(x, g, due[g]);
         }

@@ -94,6 +94,7 @@ public final class WitnessEdgesTest {
         DUE.is("kinds(0): so and not so", x.kinds(0), 0);
         DUE.is("kinds(1)", x.kinds(1), 15);
         DUE.is("gate(0, 5)", x.gate(0, 5), 0);
+        DUE.says("KINDS, as bits. BAD.");
         DUE.is("kinds(2)", x.kinds(2), BAD);
         DUE.is("kinds(-1)", x.kinds(-1), BAD);
     }
@@ -186,6 +187,7 @@ public final class WitnessEdgesTest {
 
     private static void fromAllAndNone() {
         DUE.says("FROM: GATES (bits) that have all that is HEARD");
+        DUE.says("FROM, as bits.");
         GateSayings one = Due.laid("g0,0,12345;p00000;");
         DUE.is("from() of nothing heard", one.from(), 1);
         GateSayings x = Due.laid("g0,0,01234;g0,0,01235;g0,0,01215;g0,0,01215;g0,0,51215;p00000;");
@@ -211,6 +213,7 @@ public final class WitnessEdgesTest {
 
     private static void nearestOfNothing() {
         DUE.says("NEAREST: of GATES that which differs at fewest of what is HEARD, of several the lowest; at how many.");
+        DUE.says("NEAREST: which (what = 0), at how many (1). BAD.");
         nearest(Due.laid("g0,0,12345;p00000;"), 0, 0);
         nearest(Due.laid("g0,0,12345;g0,0,00000;p00000;"), 0, 0);
         GateSayings x = Due.laid("g0,0,11111;g0,0,00000;g0,0,00000;g0,0,11110;g0,0,11100;p00000;");
