@@ -93,6 +93,13 @@ final class Due {
         }
     }
 
+    /** THE TEXT is 200 letters long then; a loop that ends even if that is never told. */
+    static void fill(GateSayings x, char letter) {
+        for (int length = x.count(9); length < 200; length++) {
+            x.write(letter);
+        }
+    }
+
     static GateSayings laid(String text) {
         GateSayings x = new GateSayings();
         write(x, text);

@@ -7,6 +7,7 @@ public final class KeptEdgesTest {
     public static void main(String[] args) {
         twoAtMost();
         allAsItStands();
+        manyAskedAheadOfIt();
         butTheTextSeenHeard();
         asKeptLast();
         nothingIsUndoneThen();
@@ -67,6 +68,28 @@ public final class KeptEdgesTest {
         DUE.gate(x, 1, "2,0,45555");
         DUE.is("count(2)", x.count(2), 1);
         DUE.is("count(3)", x.count(3), 1);
+    }
+
+    /** More than a byte holds, let in at the one gate and shut out at the other. */
+    private static void manyAskedAheadOfIt() {
+        manyAsked("g0,40,00000;p00000;", 2, 43);
+        manyAsked("g3,40,00000;p55555;", 3, 43);
+    }
+
+    private static void manyAsked(String town, int counted, int inYearNought) {
+        GateSayings x = Due.laid(town);
+        for (int i = 0; i < 400; i++) {
+            x.ask(0, 0);
+        }
+        DUE.is("keep()", x.keep(), 1);
+        DUE.is("year(0, 60, " + (counted - 2) + ") behind 400", x.year(0, 60, counted - 2), inYearNought);
+        x.ask(0, 0);
+        x.ask(0, 0);
+        DUE.is("undo()", x.undo(), 7);
+        DUE.is("count(" + counted + ") behind undo", x.count(counted), 401);
+        DUE.is("back()", x.back(), 0);
+        DUE.is("count(" + counted + ") behind back", x.count(counted), 400);
+        DUE.is("count(" + (5 - counted) + "): none", x.count(5 - counted), 0);
     }
 
     private static void butTheTextSeenHeard() {
@@ -203,9 +226,7 @@ public final class KeptEdgesTest {
             x.heard(0, 0);
             x.keep();
         }
-        while (x.count(9) < 200) {
-            x.write('~');
-        }
+        Due.fill(x, '~');
         x.write('~');
         counts(x, 5, 6, 12, 6, 6, 6, 8, 8, 2, 200);
     }

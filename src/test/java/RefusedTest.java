@@ -156,9 +156,7 @@ public final class RefusedTest {
         for (int i = 0; i < 8; i++) {
             x.heard(0, 0);
         }
-        while (x.count(9) < 200) {
-            x.write('p');
-        }
+        Due.fill(x, 'p');
         DUE.is("write(127), FULL else", x.write(127), BAD);
         DUE.is("seen(2, 0, 0), FULL else", x.seen(2, 0, 0), BAD);
         DUE.is("seen(0, 2, 0), FULL else", x.seen(0, 2, 0), BAD);
